@@ -86,7 +86,7 @@ public final class BigDesk {
         Whole target = register(r);
         Whole source = register(a);
         requireShift(n);
-        if (source.size > 0 && source.bits() + n > MOST_BITS) {
+        if (source.bits() + n > MOST_BITS) {
             throw new IllegalStateException("more than 8192 bits");
         }
         made.becomeShiftedUp(source, n);
@@ -275,6 +275,11 @@ public final class BigDesk {
         int size = 0;
         /** Never for 0, so that equal numbers are held alike. */
         boolean negative = false;
+
+        void clear() {
+            settle(0);
+            negative = false;
+        }
 
         void become(Whole other) {
             System.arraycopy(other.limbs, 0, limbs, 0, ROOM);
@@ -514,10 +519,8 @@ public final class BigDesk {
 
         /** Leaves quotient and remainder without a sign. */
         void ofAbsolutes(Whole a, Whole b) {
-            quotient.settle(0);
-            remainder.settle(0);
-            quotient.markSign(false);
-            remainder.markSign(false);
+            quotient.clear();
+            remainder.clear();
             if (b.size == 0 || a.size >= ROOM) {
                 return;
             }
@@ -530,7 +533,6 @@ public final class BigDesk {
                 quotient.limbs[j] = nextLimb(j);
             }
             quotient.settle(Math.max(last + 1, 0));
-            remainder.settle(remainder.size);
             remainder.becomeShiftedDown(remainder, spare);
         }
 
@@ -734,7 +736,7 @@ public final class BigDesk {
                 return false;
             }
             long chunk = 0;
-            to.settle(0);
+            to.clear();
             for (int i = start; i < length; i++) {
                 chunk = chunk * 10 + row[i] - ZERO;
                 if ((length - 1 - i) % CHUNK_DIGITS == 0) {

@@ -29,6 +29,7 @@ public final class ReckoningTest {
         divideRefused();
         guessesTooLarge();
         gcd();
+        gcdBehindDivide();
         noSuchRegister();
         Bench.finish();
     }
@@ -201,6 +202,12 @@ public final class ReckoningTest {
         b.does("shift of 1 by 8191", () -> b.desk.shift(4, 3, 8191));
         b.holdsBriefly(4, Bench.ONE.shiftLeft(8191));
         b.does("shift of 1 by 8192", Bench.STATE, () -> b.desk.shift(4, 3, 8192));
+        for (int n : new int[] {4096, 4097, 8128, 8192}) {
+            b.does("set(3, 1)", () -> b.desk.set(3, 1));
+            b.does("shift of 1 by 4096", () -> b.desk.shift(3, 3, 4096));
+            b.does("then by " + n, Bench.STATE, () -> b.desk.shift(3, 3, n));
+            b.holdsBriefly(3, Bench.ONE.shiftLeft(4096));
+        }
         b.does("shift into itself", () -> b.desk.shift(0, 0, 70));
         b.holds(0, v.shiftLeft(70));
     }
@@ -374,6 +381,26 @@ public final class ReckoningTest {
         b.does("subtract", () -> b.desk.subtract(9, 9, 10));
         b.does("gcd of long ones", () -> b.desk.gcd(9, 7, 9));
         b.holdsBriefly(9, Bench.ONE.shiftLeft(2048).subtract(Bench.ONE));
+    }
+
+    /** Nothing of one call's reckoning may show in the next, a sign least of all. */
+    private static void gcdBehindDivide() {
+        for (int x = 1; x <= 20; x++) {
+            for (int y = 1; y <= 20; y++) {
+                int first = 2 * x;
+                int second = -y;
+                Bench b = new Bench("promise 11 behind a rest below 0, " + first + " and " + second);
+                b.does("set", () -> b.desk.set(0, 7));
+                b.does("set", () -> b.desk.set(1, -2));
+                b.does("set", () -> b.desk.set(2, first));
+                b.does("set", () -> b.desk.set(3, second));
+                b.does("divide", () -> b.desk.divide(4, 5, 0, 1));
+                b.does("gcd", () -> b.desk.gcd(6, 2, 3));
+                b.holds(4, -4);
+                b.holds(5, -1);
+                b.holds(6, BigInteger.valueOf(first).gcd(BigInteger.valueOf(second)));
+            }
+        }
     }
 
     private static void noSuchRegister() {

@@ -142,7 +142,8 @@ public final class RegistersTest {
         BigInteger below = above.negate().subtract(Bench.ONE);
         BigInteger[] none = {
             above, below, Bench.ONE.shiftLeft(64), Bench.ONE.shiftLeft(64).negate(),
-            Bench.ONE.shiftLeft(64).add(Bench.ONE), Bench.ONE.shiftLeft(100).add(above).negate(), Bench.ONE.shiftLeft(640)
+            Bench.ONE.shiftLeft(64).add(Bench.ONE), Bench.ONE.shiftLeft(100).add(above).negate(),
+            Bench.ONE.shiftLeft(640)
         };
         for (BigInteger v : none) {
             b.load(0, v);
