@@ -110,6 +110,12 @@ final class Bench {
         }
     }
 
+    /** v times 2 to the n. */
+    void loadPower(int r, long v, int n) {
+        does("set for loadPower", () -> desk.set(r, v));
+        does("shift for loadPower", () -> desk.shift(r, r, n));
+    }
+
     /** 2 to the 8192 less one, or its opposite; uses register 11. */
     void loadGreatest(int r, boolean below) {
         load(11, ONE);
