@@ -2,7 +2,6 @@ import java.math.BigInteger;
 
 /** Promises 4 to 11: sums, products, shifts, division, common divisors. */
 public final class ReckoningTest {
-    private static final int[] NO_REGISTERS = {-1, 12, Integer.MAX_VALUE, Integer.MIN_VALUE};
     private static final BigInteger WIDE = new BigInteger("FFFFFFFF00000000FFFFFFFFFFFFFFFF", 16);
     private static final BigInteger[] NUMBERS = {
         BigInteger.ZERO, Bench.ONE, BigInteger.valueOf(-1), BigInteger.valueOf(7), BigInteger.valueOf(-2),
@@ -17,20 +16,16 @@ public final class ReckoningTest {
                 pair(a, b);
             }
         }
-        oneRegisterOften();
         sumsAtTheLimit();
         productsAtTheLimit();
         timesAtTheLimit();
         shift();
         half();
-        divideSmall();
         divideIntoItsOwn();
         divideAtTheLimit();
-        divideRefused();
         guessesTooLarge();
         gcd();
         gcdBehindDivide();
-        noSuchRegister();
         Bench.finish();
     }
 
@@ -67,36 +62,6 @@ public final class ReckoningTest {
         BigInteger[] both = a.divideAndRemainder(b);
         boolean under = both[1].signum() != 0 && a.signum() != b.signum();
         return under ? both[0].subtract(Bench.ONE) : both[0];
-    }
-
-    private static void oneRegisterOften() {
-        Bench b = new Bench("promises 4 to 9 and 11, one register named often");
-        b.does("set(0, 12)", () -> b.desk.set(0, 12));
-        b.does("set(1, -18)", () -> b.desk.set(1, -18));
-        b.does("add(0, 0, 1)", () -> b.desk.add(0, 0, 1));
-        b.holds(0, -6);
-        b.does("add(0, 1, 0)", () -> b.desk.add(0, 1, 0));
-        b.holds(0, -24);
-        b.does("subtract(0, 1, 0)", () -> b.desk.subtract(0, 1, 0));
-        b.holds(0, 6);
-        b.does("add(0, 0, 0)", () -> b.desk.add(0, 0, 0));
-        b.holds(0, 12);
-        b.does("multiply(0, 0, 0)", () -> b.desk.multiply(0, 0, 0));
-        b.holds(0, 144);
-        b.does("multiply(1, 0, 1)", () -> b.desk.multiply(1, 0, 1));
-        b.holds(1, -2592);
-        b.does("times(1, 1, -5)", () -> b.desk.times(1, 1, -5));
-        b.holds(1, 12960);
-        b.does("gcd(1, 1, 0)", () -> b.desk.gcd(1, 1, 0));
-        b.holds(1, 144);
-        b.does("shift(1, 1, 40)", () -> b.desk.shift(1, 1, 40));
-        b.holds(1, 144L << 40);
-        b.does("half(1, 1, 41)", () -> b.desk.half(1, 1, 41));
-        b.holds(1, 72);
-        b.does("subtract(1, 1, 1)", () -> b.desk.subtract(1, 1, 1));
-        b.holds(1, 0);
-        b.does("gcd(0, 0, 0)", () -> b.desk.gcd(0, 0, 0));
-        b.holds(0, 144);
     }
 
     private static void sumsAtTheLimit() {
@@ -240,24 +205,6 @@ public final class ReckoningTest {
         }
     }
 
-    private static void divideSmall() {
-        long[][] rows = {
-            {7, 2, 3, 1}, {-7, 2, -4, 1}, {7, -2, -4, -1}, {-7, -2, 3, -1}, {6, 3, 2, 0}, {-6, 3, -2, 0},
-            {6, -3, -2, 0}, {-6, -3, 2, 0}, {1, 5, 0, 1}, {-1, 5, -1, 4}, {1, -5, -1, -4}, {-1, -5, 0, -1},
-            {0, 5, 0, 0}, {0, -5, 0, 0}, {5, 1, 5, 0}, {-5, -1, 5, 0}, {5, -1, -5, 0}
-        };
-        for (long[] row : rows) {
-            Bench b = new Bench("promise 10, " + row[0] + " by " + row[1]);
-            b.does("set", () -> b.desk.set(2, row[0]));
-            b.does("set", () -> b.desk.set(3, row[1]));
-            b.does("divide", () -> b.desk.divide(0, 1, 2, 3));
-            b.holds(0, row[2]);
-            b.holds(1, row[3]);
-            b.holds(2, row[0]);
-            b.holds(3, row[1]);
-        }
-    }
-
     private static void divideIntoItsOwn() {
         for (int way = 0; way < 6; way++) {
             int q = new int[] {0, 1, 2, 2, 0, 1}[way];
@@ -306,21 +253,6 @@ public final class ReckoningTest {
         BigInteger less = root.subtract(Bench.ONE);
         b.holdsBriefly(2, floor(Bench.LEAST, less));
         b.holdsBriefly(3, Bench.LEAST.mod(less));
-    }
-
-    private static void divideRefused() {
-        Bench b = new Bench("promise 10, refused");
-        b.does("set", () -> b.desk.set(0, 100));
-        b.does("set", () -> b.desk.set(1, 7));
-        b.does("into one register", Bench.ARGUMENT, () -> b.desk.divide(2, 2, 0, 1));
-        b.does("into one register, by 0", Bench.ARGUMENT, () -> b.desk.divide(0, 0, 0, 3));
-        b.does("by 0", Bench.ARITHMETIC, () -> b.desk.divide(0, 1, 0, 3));
-        b.does("0 by 0", Bench.ARITHMETIC, () -> b.desk.divide(0, 1, 3, 3));
-        b.does("no register, by 0", Bench.ARGUMENT, () -> b.desk.divide(0, 12, 0, 3));
-        b.does("no register twice", Bench.ARGUMENT, () -> b.desk.divide(12, 12, 0, 1));
-        b.holds(0, 100);
-        b.holds(1, 7);
-        b.holds(2, 0);
     }
 
     /** Dividends for which the first guess at a limb of the quotient is too large, by one or by two. */
@@ -400,41 +332,6 @@ public final class ReckoningTest {
                 b.holds(5, -1);
                 b.holds(6, BigInteger.valueOf(first).gcd(BigInteger.valueOf(second)));
             }
-        }
-    }
-
-    private static void noSuchRegister() {
-        for (int no : NO_REGISTERS) {
-            Bench b = new Bench("no register " + no);
-            b.does("set(1, 9)", () -> b.desk.set(1, 9));
-            for (int place = 0; place < 4; place++) {
-                int r = place == 0 ? no : 1;
-                int x = place == 1 ? no : 1;
-                int y = place == 2 ? no : 1;
-                int z = place == 3 ? no : 2;
-                b.does("divide", Bench.ARGUMENT, () -> b.desk.divide(z, r, x, y));
-                if (place == 3) {
-                    continue;
-                }
-                b.does("add", Bench.ARGUMENT, () -> b.desk.add(r, x, y));
-                b.does("subtract", Bench.ARGUMENT, () -> b.desk.subtract(r, x, y));
-                b.does("multiply", Bench.ARGUMENT, () -> b.desk.multiply(r, x, y));
-                b.does("gcd", Bench.ARGUMENT, () -> b.desk.gcd(r, x, y));
-                if (place == 2) {
-                    continue;
-                }
-                b.does("times", Bench.ARGUMENT, () -> b.desk.times(r, x, 3));
-                b.does("shift", Bench.ARGUMENT, () -> b.desk.shift(r, x, 3));
-                b.does("half", Bench.ARGUMENT, () -> b.desk.half(r, x, 3));
-            }
-            b.holds(0, 0);
-            b.holds(1, 9);
-            b.holds(11, 0);
-            b.loadGreatest(1, false);
-            b.does("add over the limit", Bench.ARGUMENT, () -> b.desk.add(no, 1, 1));
-            b.does("multiply over the limit", Bench.ARGUMENT, () -> b.desk.multiply(no, 1, 1));
-            b.does("times over the limit", Bench.ARGUMENT, () -> b.desk.times(no, 1, 9));
-            b.does("shift over the limit", Bench.ARGUMENT, () -> b.desk.shift(no, 1, 9));
         }
     }
 }

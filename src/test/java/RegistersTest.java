@@ -2,7 +2,6 @@ import java.math.BigInteger;
 
 /** Promises 1 to 3 and 12 to 17: what registers hold at first, how they are laid and looked at. */
 public final class RegistersTest {
-    private static final int[] NO_REGISTERS = {-1, 12, 13, 256, Integer.MAX_VALUE, Integer.MIN_VALUE};
     private static final long[] LONGS = {
         0, 1, -1, 7, -7, 0xFFFFFFFFL, -0xFFFFFFFFL, 1L << 32, -(1L << 32), Integer.MIN_VALUE,
         Long.MAX_VALUE, Long.MIN_VALUE, Long.MIN_VALUE + 1, 1L << 62
@@ -19,7 +18,6 @@ public final class RegistersTest {
         limb();
         look();
         lookAtEndingZeros();
-        noSuchRegister();
         Bench.finish();
     }
 
@@ -200,27 +198,6 @@ public final class RegistersTest {
             b.does("shift", () -> b.desk.shift(0, 0, n));
             b.due("look(0, 3) of -3 shifted by " + n, n, () -> b.desk.look(0, 3));
             b.due("look(0, 1) of -3 shifted by " + n, n + 2, () -> b.desk.look(0, 1));
-        }
-    }
-
-    private static void noSuchRegister() {
-        for (int no : NO_REGISTERS) {
-            Bench b = new Bench("no register " + no);
-            b.does("set(1, 9)", () -> b.desk.set(1, 9));
-            b.does("set", Bench.ARGUMENT, () -> b.desk.set(no, 1));
-            b.does("copy to", Bench.ARGUMENT, () -> b.desk.copy(no, 1));
-            b.does("copy from", Bench.ARGUMENT, () -> b.desk.copy(1, no));
-            b.does("negate to", Bench.ARGUMENT, () -> b.desk.negate(no, 1));
-            b.does("negate from", Bench.ARGUMENT, () -> b.desk.negate(1, no));
-            b.due("compare first", Bench.ARGUMENT, () -> b.desk.compare(no, 1));
-            b.due("compare second", Bench.ARGUMENT, () -> b.desk.compare(1, no));
-            b.due("rest", Bench.ARGUMENT, () -> b.desk.rest(no, 5));
-            b.due("value", Bench.ARGUMENT, () -> b.desk.value(no));
-            b.due("limb", Bench.ARGUMENT, () -> b.desk.limb(no, 0));
-            b.due("look", Bench.ARGUMENT, () -> b.desk.look(no, 0));
-            b.holds(0, 0);
-            b.holds(1, 9);
-            b.holds(11, 0);
         }
     }
 }

@@ -22,6 +22,7 @@ public final class TextEdgesTest {
         readChangesNothingElse();
         readEveryBit();
         readOneBitTooMany();
+        readHighBitsAlone();
         readManyDigitsTooMany();
         readKeepsTheTapeWhenRefused();
         readLongs();
@@ -258,6 +259,13 @@ public final class TextEdgesTest {
             noText("2 to the 8192, " + sign, sign + Bench.LIMIT);
             noText("2 to the 8192 and 1, " + sign, sign + Bench.LIMIT.add(Bench.ONE));
             noText("2467 digits 9, " + sign, sign + "9".repeat(2467));
+        }
+    }
+
+    /** Numbers that would be 7 if the bits for which there is no room were lost. */
+    private static void readHighBitsAlone() {
+        for (int n : new int[] {8192, 8193, 8223, 8224, 8255, 8256, 8257, 8288, 8320, 8448, 8630}) {
+            noText("2 to the " + n + " and 7", Bench.ONE.shiftLeft(n).add(BigInteger.valueOf(7)).toString());
         }
     }
 

@@ -1,6 +1,6 @@
 import java.math.BigInteger;
 
-/** Promises 18 to 22: the tape, reading, writing, OUT. */
+/** Promises 18 to 21: the tape, reading, writing, OUT. Their bounds and promise 22 are in TextEdgesTest. */
 public final class TextsTest {
     private static final String[] TEXTS = {
         "0", "1", "-1", "9", "-9", "10", "999999999", "1000000000", "1000000001", "-1000000000000000000",
@@ -15,15 +15,10 @@ public final class TextsTest {
 
     public static void main(String[] args) {
         feed();
-        feedFull();
         readTexts();
         readNone();
-        readWithoutRegister();
-        readGreatest();
         readLong();
-        writeGreatest();
         out();
-        text();
         Bench.finish();
     }
 
@@ -49,27 +44,6 @@ public final class TextsTest {
         b.due("feed behind read", 3, () -> b.desk.feed(3, 0x31322DL));
         b.due("read(1)", true, () -> b.desk.read(1));
         b.holds(1, -21);
-    }
-
-    private static void feedFull() {
-        Bench b = new Bench("promise 18, a full tape");
-        for (int i = 0; i < 324; i++) {
-            b.due("feed(8, v)", 8 * i + 8, () -> b.desk.feed(8, 0x3131313131313131L));
-        }
-        b.due("feed(7, v)", 2599, () -> b.desk.feed(7, 0));
-        b.due("feed(2, v) to 2601", Bench.STATE, () -> b.desk.feed(2, 0));
-        b.due("feed(8, v) to 2607", Bench.STATE, () -> b.desk.feed(8, 0));
-        b.due("feed(9, v)", Bench.ARGUMENT, () -> b.desk.feed(9, 0));
-        b.due("text(0)", 2599, () -> b.desk.text(0));
-        b.due("feed(1, v) to 2600", 2600, () -> b.desk.feed(1, 0));
-        b.due("feed(1, v) to 2601", Bench.STATE, () -> b.desk.feed(1, 0));
-        b.due("feed(0, v)", Bench.ARGUMENT, () -> b.desk.feed(0, 0));
-        b.due("text(0)", 2600, () -> b.desk.text(0));
-        b.due("read(0)", false, () -> b.desk.read(0));
-        b.due("text(0)", 0, () -> b.desk.text(0));
-        b.due("feed(8, v)", 8, () -> b.desk.feed(8, 0x3131313131313131L));
-        b.due("read(0)", true, () -> b.desk.read(0));
-        b.holds(0, 11111111);
     }
 
     private static void readTexts() {
@@ -104,39 +78,6 @@ public final class TextsTest {
         b.holds(1, 42);
     }
 
-    private static void readWithoutRegister() {
-        Bench b = new Bench("promises 19 and 20, no such register");
-        b.does("set(1, 9)", () -> b.desk.set(1, 9));
-        b.due("write(1)", 1, () -> b.desk.write(1));
-        b.feed("-77");
-        for (int no : new int[] {-1, 12, Integer.MAX_VALUE, Integer.MIN_VALUE}) {
-            b.due("read(" + no + ")", Bench.ARGUMENT, () -> b.desk.read(no));
-            b.due("text(0)", 3, () -> b.desk.text(0));
-            b.due("write(" + no + ")", Bench.ARGUMENT, () -> b.desk.write(no));
-            b.outIs("9");
-        }
-        b.due("read(11)", true, () -> b.desk.read(11));
-        b.holds(11, -77);
-    }
-
-    private static void readGreatest() {
-        for (boolean below : new boolean[] {false, true}) {
-            String sign = below ? "-" : "";
-            Bench b = new Bench("promise 19, the number furthest from 0 " + sign);
-            b.feed(sign + Bench.GREATEST);
-            b.due("read(0)", true, () -> b.desk.read(0));
-            b.holdsBriefly(0, below ? Bench.LEAST : Bench.GREATEST);
-            b.loadGreatest(1, below);
-            b.due("compare(0, 1)", 0, () -> b.desk.compare(0, 1));
-            Bench next = new Bench("promise 19, one further " + sign);
-            next.does("set(0, 5)", () -> next.desk.set(0, 5));
-            next.feed(sign + Bench.LIMIT);
-            next.due("read(0)", false, () -> next.desk.read(0));
-            next.holds(0, 5);
-            next.due("text(0)", 0, () -> next.desk.text(0));
-        }
-    }
-
     private static void readLong() {
         for (int digits : new int[] {2466, 2467, 2468, 2500, 2599, 2600}) {
             for (String first : new String[] {"1", "9", "-9"}) {
@@ -148,18 +89,6 @@ public final class TextsTest {
                 b.due("read(0)", fits, () -> b.desk.read(0));
                 b.holdsBriefly(0, fits ? new BigInteger(text) : BigInteger.valueOf(5));
             }
-        }
-    }
-
-    private static void writeGreatest() {
-        for (boolean below : new boolean[] {false, true}) {
-            Bench b = new Bench("promise 20, the number furthest from 0" + (below ? ", below it" : ""));
-            b.loadGreatest(0, below);
-            b.writes(0, String.valueOf(below ? Bench.LEAST : Bench.GREATEST));
-            b.holdsBriefly(0, below ? Bench.LEAST : Bench.GREATEST);
-            b.does("set(1, -30)", () -> b.desk.set(1, -30));
-            b.writes(1, "-30");
-            b.writes(2, "0");
         }
     }
 
@@ -185,21 +114,5 @@ public final class TextsTest {
         b.due("write of a shorter one", 1, () -> b.desk.write(0));
         b.due("out(0)", 56, () -> b.desk.out(0));
         b.due("out(1)", Bench.NO_ELEMENT, () -> b.desk.out(1));
-    }
-
-    private static void text() {
-        Bench b = new Bench("promise 22");
-        b.does("set", () -> b.desk.set(0, -120));
-        b.due("text(1) before any", 0, () -> b.desk.text(1));
-        b.due("write(0)", 4, () -> b.desk.write(0));
-        b.due("text(1)", 4, () -> b.desk.text(1));
-        b.due("text(0)", 0, () -> b.desk.text(0));
-        b.due("feed", 6, () -> b.desk.feed(6, -1));
-        b.due("text(0)", 6, () -> b.desk.text(0));
-        b.due("text(1)", 4, () -> b.desk.text(1));
-        for (int what : new int[] {-1, 2, 3, Integer.MAX_VALUE, Integer.MIN_VALUE}) {
-            b.due("text(" + what + ")", Bench.ARGUMENT, () -> b.desk.text(what));
-        }
-        b.due("text(0)", 6, () -> b.desk.text(0));
     }
 }
