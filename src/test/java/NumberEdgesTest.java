@@ -31,8 +31,10 @@ public final class NumberEdgesTest {
         halfByNothing();
         halfByTheMost();
         halfDownwards();
+        halfThroughAllLimbs();
         divideDownwards();
         divideExactly();
+        divideThroughAllLimbs();
         divideByTheEnds();
         divideByOne();
         divideTheSmaller();
@@ -325,6 +327,16 @@ public final class NumberEdgesTest {
         }
     }
 
+    /** The step downwards may run through all limbs of a number, and up to one more bit. */
+    private static void halfThroughAllLimbs() {
+        Bench b = new Bench("promise 9, downwards through all limbs");
+        b.loadGreatest(0, true);
+        for (int n : new int[] {1, 2, 31, 32, 33, 64, 4096, 8190}) {
+            b.does("half of the least number by " + n, () -> b.desk.half(1, 0, n));
+            b.holdsBriefly(1, ONE.shiftLeft(8192 - n).negate());
+        }
+    }
+
     /** Every pair of small numbers: q is downwards, and the rest between 0 and b, not b itself. */
     private static void divideDownwards() {
         for (int divisor = -5; divisor <= 5; divisor++) {
@@ -356,6 +368,21 @@ public final class NumberEdgesTest {
                 b.does("0 by it", () -> b.desk.divide(2, 3, 4, 1));
                 b.holds(2, 0);
                 b.holds(3, 0);
+            }
+        }
+    }
+
+    /** The step downwards may run through all limbs of the quotient, and up to one more bit. */
+    private static void divideThroughAllLimbs() {
+        for (int sign : SIGNS) {
+            Bench b = new Bench("promise 10, downwards through all limbs of the quotient" + side(sign));
+            b.loadGreatest(0, sign < 0);
+            for (int n : new int[] {1, 31, 32, 62}) {
+                long divisor = -sign * (1L << n);
+                b.does("set", () -> b.desk.set(1, divisor));
+                b.does("divide by " + divisor, () -> b.desk.divide(2, 3, 0, 1));
+                b.holdsBriefly(2, ONE.shiftLeft(8192 - n).negate());
+                b.holds(3, -sign);
             }
         }
     }

@@ -82,6 +82,9 @@ public final class RefusalsTest {
         state("promise 8, the highest bit shifted by 1 into its own register", d -> d.shift(TOP, TOP, 1));
         state("promise 8, the greatest number shifted by 8192", d -> d.shift(TO, G, 8192));
         state("promise 8, the least number shifted by 1", d -> d.shift(TO, L, 1));
+        state("promise 8, 2 to the 4096 shifted by 4096", d -> d.shift(TO, ROOT, 4096));
+        state("promise 8, 2 to the 4096 shifted by 8192", d -> d.shift(TO, ROOT, 8192));
+        state("promise 8, the highest bit shifted by 8192", d -> d.shift(TO, TOP, 8192));
     }
 
     private static void halves() {

@@ -140,11 +140,12 @@ public final class TextEdgesTest {
         b.does("set", () -> b.desk.set(0, -5));
         b.due("read", false, () -> b.desk.read(0));
         b.holds(0, -5);
-        b.feed("8");
-        b.due("read", true, () -> b.desk.read(1));
-        b.due("read of the tape used up", false, () -> b.desk.read(0));
-        b.holds(0, -5);
-        b.holds(1, 8);
+        for (String before : new String[] {"8", "-8", "-", "0", "-12"}) {
+            b.feed(before);
+            b.answer(() -> b.desk.read(1));
+            b.due("read of an empty tape behind " + before, false, () -> b.desk.read(0));
+            b.holds(0, -5);
+        }
     }
 
     private static void readUsesTheTapeUp() {
