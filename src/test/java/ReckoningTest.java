@@ -25,6 +25,7 @@ public final class ReckoningTest {
         divideAtTheLimit();
         guessesTooLarge();
         gcd();
+        gcdOfUnlikeLengths();
         gcdBehindDivide();
         Bench.finish();
     }
@@ -313,6 +314,20 @@ public final class ReckoningTest {
         b.does("subtract", () -> b.desk.subtract(9, 9, 10));
         b.does("gcd of long ones", () -> b.desk.gcd(9, 7, 9));
         b.holdsBriefly(9, Bench.ONE.shiftLeft(2048).subtract(Bench.ONE));
+    }
+
+    /** A first quotient of many bits makes the factors of a foretold run of divisions grow unlike. */
+    private static void gcdOfUnlikeLengths() {
+        BigInteger y = BigInteger.valueOf(0x1F2E3D4C5B6A7988L).pow(9);
+        BigInteger rest = BigInteger.valueOf(0x0ABBCCDDEEFF1123L).pow(9);
+        for (int n = 1; n < 62; n++) {
+            BigInteger x = y.shiftLeft(n).add(rest);
+            Bench b = new Bench("promise 11, the larger of " + n + " bits more");
+            b.load(0, x);
+            b.load(1, y.negate());
+            b.does("gcd", () -> b.desk.gcd(2, 0, 1));
+            b.holds(2, x.gcd(y));
+        }
     }
 
     /** Nothing of one call's reckoning may show in the next, a sign least of all. */
